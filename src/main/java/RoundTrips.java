@@ -86,26 +86,17 @@ public final class RoundTrips {
     // ---- odds
 
     public long stops(int type, int from, int to, int part) throws IllegalArgumentException {
-        CarType car = requireType(type);
-        requireZone(from, to);
-        requireWithin(part, 0, 1);
-        odds.count(building, car.room, from, to);
+        countOdds(type, from, to, part);
         return partInLowestTerms(odds.stopsOfAll, odds.ways, part);
     }
 
     public long highest(int type, int from, int to, int part) throws IllegalArgumentException {
-        CarType car = requireType(type);
-        requireZone(from, to);
-        requireWithin(part, 0, 1);
-        odds.count(building, car.room, from, to);
+        countOdds(type, from, to, part);
         return partInLowestTerms(odds.heightsOfAll, odds.ways, part);
     }
 
     public long trip(int type, int from, int to, int part) throws IllegalArgumentException {
-        CarType car = requireType(type);
-        requireZone(from, to);
-        requireWithin(part, 0, 1);
-        odds.count(building, car.room, from, to);
+        CarType car = countOdds(type, from, to, part);
         return partInLowestTerms(odds.tripAbove(car), odds.tripBelow(car), part);
     }
 
@@ -204,7 +195,7 @@ public final class RoundTrips {
         return most;
     }
 
-    // ---- what the calls ask for first
+    // ---- what the calls ask for first: each throws what the document names
 
     private static void requireWithin(int number, int least, int most) {
         if (number < least || number > most) {
@@ -244,6 +235,14 @@ public final class RoundTrips {
         if (everybody > MOST_PERSONS) {
             throw new IllegalStateException("all floors have more than 200 persons together");
         }
+    }
+
+    private CarType countOdds(int type, int from, int to, int part) {
+        CarType car = requireType(type);
+        requireZone(from, to);
+        requireWithin(part, 0, 1);
+        odds.count(building, car.room, from, to);
+        return car;
     }
 
     /** More cars of a type cost more, so of each type only the fewest that carry enough can be the cheapest. */
