@@ -20,15 +20,15 @@ public final class OddsTest {
         x.type(2, 4, 3, 1, 1);
         x.type(2, 3, 3, 1, 1);
         x.type(1, 7, 2, 3, 1);
-        fraction("stops of two", part -> x.stops(0, 1, 2, part), 3, 2);
-        fraction("highest of two", part -> x.highest(0, 1, 2, part), 25, 1);
-        fraction("trip of two", part -> x.trip(0, 1, 2, part), 24, 1);
-        fraction("trip of two, slower", part -> x.trip(1, 1, 2, part), 169, 6);
-        fraction("stops of one", part -> x.stops(2, 1, 2, part), 1, 1);
-        fraction("highest of one", part -> x.highest(2, 1, 2, part), 20, 1);
-        fraction("trip of one", part -> x.trip(2, 1, 2, part), 110, 7);
-        fraction("stops on one floor", part -> x.stops(0, 2, 2, part), 1, 1);
-        fraction("trip to one floor", part -> x.trip(0, 2, 2, part), 25, 1);
+        Check.fraction("stops of two", part -> x.stops(0, 1, 2, part), 3, 2);
+        Check.fraction("highest of two", part -> x.highest(0, 1, 2, part), 25, 1);
+        Check.fraction("trip of two", part -> x.trip(0, 1, 2, part), 24, 1);
+        Check.fraction("trip of two, slower", part -> x.trip(1, 1, 2, part), 169, 6);
+        Check.fraction("stops of one", part -> x.stops(2, 1, 2, part), 1, 1);
+        Check.fraction("highest of one", part -> x.highest(2, 1, 2, part), 20, 1);
+        Check.fraction("trip of one", part -> x.trip(2, 1, 2, part), 110, 7);
+        Check.fraction("stops on one floor", part -> x.stops(0, 2, 2, part), 1, 1);
+        Check.fraction("trip to one floor", part -> x.trip(0, 2, 2, part), 25, 1);
     }
 
     private static void nobody() {
@@ -38,14 +38,14 @@ public final class OddsTest {
         x.floor(0, 10);
         x.type(5, 1, 30, 10, 1);
         x.type(1, 100, 0, 0, 1);
-        fraction("stops of nobody", part -> x.stops(0, 1, 1, part), 0, 1);
-        fraction("highest of nobody", part -> x.highest(0, 3, 3, part), 0, 1);
-        fraction("trip of nobody", part -> x.trip(0, 1, 1, part), 0, 1);
+        Check.fraction("stops of nobody", part -> x.stops(0, 1, 1, part), 0, 1);
+        Check.fraction("highest of nobody", part -> x.highest(0, 3, 3, part), 0, 1);
+        Check.fraction("trip of nobody", part -> x.trip(0, 1, 1, part), 0, 1);
         Check.answers("trips of nobody are as long", () -> x.compare(0, 1, 3, 3), 0);
-        fraction("empty floors do not count", part -> x.stops(0, 1, 3, part), 1, 1);
-        fraction("an empty floor is not the highest", part -> x.highest(0, 1, 3, part), 20, 1);
-        fraction("the trip to the one floor", part -> x.trip(0, 1, 3, part), 40 + 60 + 100, 1);
-        fraction("without doors and people", part -> x.trip(1, 1, 3, part), 2, 5);
+        Check.fraction("empty floors do not count", part -> x.stops(0, 1, 3, part), 1, 1);
+        Check.fraction("an empty floor is not the highest", part -> x.highest(0, 1, 3, part), 20, 1);
+        Check.fraction("the trip to the one floor", part -> x.trip(0, 1, 3, part), 40 + 60 + 100, 1);
+        Check.fraction("without doors and people", part -> x.trip(1, 1, 3, part), 2, 5);
     }
 
     private static void heightsAreFromTheGround() {
@@ -54,9 +54,9 @@ public final class OddsTest {
         x.floor(1, 30);
         x.floor(2, 45);
         x.type(1, 1, 0, 0, 1);
-        fraction("floor 2 alone", part -> x.highest(0, 2, 2, part), 130, 1);
-        fraction("floors 2 and 3", part -> x.highest(0, 2, 3, part), 160, 1);
-        fraction("all floors", part -> x.highest(0, 1, 3, part), 118, 1);
+        Check.fraction("floor 2 alone", part -> x.highest(0, 2, 2, part), 130, 1);
+        Check.fraction("floors 2 and 3", part -> x.highest(0, 2, 3, part), 160, 1);
+        Check.fraction("all floors", part -> x.highest(0, 1, 3, part), 118, 1);
     }
 
     private static void personsChangeTheOdds() {
@@ -64,14 +64,14 @@ public final class OddsTest {
         x.floor(1, 10);
         x.floor(1, 10);
         x.type(2, 1, 0, 0, 1);
-        fraction("alike", part -> x.stops(0, 1, 2, part), 3, 2);
+        Check.fraction("alike", part -> x.stops(0, 1, 2, part), 3, 2);
         x.persons(1, 2);
-        fraction("two of three", part -> x.stops(0, 1, 2, part), 13, 9);
+        Check.fraction("two of three", part -> x.stops(0, 1, 2, part), 13, 9);
         x.persons(2, 0);
-        fraction("all at one", part -> x.stops(0, 1, 2, part), 1, 1);
-        fraction("the highest that has some", part -> x.highest(0, 1, 2, part), 10, 1);
+        Check.fraction("all at one", part -> x.stops(0, 1, 2, part), 1, 1);
+        Check.fraction("the highest that has some", part -> x.highest(0, 1, 2, part), 10, 1);
         x.floor(2, 10);
-        fraction("a new floor", part -> x.stops(0, 1, 3, part), 3, 2);
+        Check.fraction("a new floor", part -> x.stops(0, 1, 3, part), 3, 2);
     }
 
     private static void comparisons() {
@@ -150,11 +150,11 @@ public final class OddsTest {
             for (int type = 0; type < types.length; type++) {
                 int t = type;
                 String name = "(" + t + ", " + from + ", " + to + ")";
-                fraction("stops" + name, part -> x.stops(t, from, to, part),
+                Check.fraction("stops" + name, part -> x.stops(t, from, to, part),
                         model.stops(t, from, to, 0), model.stops(t, from, to, 1));
-                fraction("highest" + name, part -> x.highest(t, from, to, part),
+                Check.fraction("highest" + name, part -> x.highest(t, from, to, part),
                         model.highest(t, from, to, 0), model.highest(t, from, to, 1));
-                fraction("trip" + name, part -> x.trip(t, from, to, part),
+                Check.fraction("trip" + name, part -> x.trip(t, from, to, part),
                         model.trip(t, from, to, 0), model.trip(t, from, to, 1));
                 for (int other = 0; other < types.length; other++) {
                     int o = other;
@@ -201,15 +201,5 @@ public final class OddsTest {
         Check.illegalArgument("stops" + args, () -> x.stops(type, from, to, part));
         Check.illegalArgument("highest" + args, () -> x.highest(type, from, to, part));
         Check.illegalArgument("trip" + args, () -> x.trip(type, from, to, part));
-    }
-
-    /** A call whose last argument is the part. */
-    private interface Parts {
-        long answer(int part);
-    }
-
-    private static void fraction(String name, Parts call, long above, long below) {
-        Check.answers(name + ", above", () -> call.answer(0), above);
-        Check.answers(name + ", below", () -> call.answer(1), below);
     }
 }
