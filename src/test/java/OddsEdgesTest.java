@@ -262,6 +262,11 @@ public final class OddsEdgesTest {
         Check.answers("floor 1: 174 / 7 with 186 / 7", () -> x.compare(0, 2, 1, 1), -1);
         Check.answers("floor 1: 186 / 7 with 174 / 7", () -> x.compare(2, 0, 1, 1), 1);
         Check.answers("one at another price", () -> x.compare(0, 3, 1, 2), 0);
+        // Of floors 1 and 2 a car of one goes 15 decimetres high on the average, one of two 35 / 2.
+        x.type(1, 5, 0, 0, 1);
+        x.type(2, 5, 0, 0, 1);
+        Check.answers("6 with 7: each with the odds of its own room", () -> x.compare(4, 5, 1, 2), -1);
+        Check.answers("7 with 6", () -> x.compare(5, 4, 1, 2), 1);
         Check.answers("one with itself", () -> x.compare(1, 1, 1, 2), 0);
     }
 
@@ -277,6 +282,12 @@ public final class OddsEdgesTest {
         Check.fraction("still less below 40", part -> x.trip(1, 1, 2, part), 2559999999999L, 64000000000L);
         Check.answers("hardly shorter", () -> x.compare(0, 1, 1, 2), -1);
         Check.answers("hardly longer", () -> x.compare(1, 0, 1, 2), 1);
+        for (int n = 100; n <= 199; n++) {
+            String name = "one of " + (n + 1) + " lower";
+            x.persons(2, n);
+            Check.answers(name + ": shorter", () -> x.compare(0, 1, 1, 2), -1);
+            Check.answers(name + ": longer", () -> x.compare(1, 0, 1, 2), 1);
+        }
         x.persons(1, 0);
         Check.answers("both 40", () -> x.compare(0, 1, 1, 2), 0);
         Check.answers("both 40, the other way round", () -> x.compare(1, 0, 1, 2), 0);
