@@ -1,6 +1,7 @@
 /**
  * Promises 8 to 11 where only exact fractions answer rightly: trips of different lengths that are one and the same
- * number as doubles. A search for storeys found the houses; the answers due are by fractions of big numbers.
+ * number as doubles, and persons carried that are hardly below or above a whole number. A search for storeys found the
+ * houses; the answers due are by fractions of big numbers.
  */
 public final class ExactTest {
     public static void main(String[] args) {
@@ -63,7 +64,7 @@ public final class ExactTest {
         asLong(z, 5411239, 50000);
     }
 
-    /** 9000 persons and seconds over the trip are hardly below a whole number, which they are as doubles. */
+    /** 9000 over the trip is hardly below a whole number; in doubles, one way or another to divide rounds it up. */
     private static void hardlyTooLongForOneMore() {
         Check.sentence("300 * cars * P / TRIP persons of all floors, rounded down");
         sixCarsCarry(36, house(
